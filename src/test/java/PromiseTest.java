@@ -106,6 +106,20 @@ public final class PromiseTest {
         is("nodes", x.nodes(), 10);
     }
 
+    private static void sayTheSameAgain() {
+        part = "2 say, the same again";
+        WordTokenPasser x = new WordTokenPasser();
+        x.say(1, 0, NONE, NONE);
+        for (int phone = 3; phone >= 0; phone--) {
+            is("two phones", x.say(1, 0, phone, NONE), 5 - phone);
+            is("two phones again", x.say(1, 0, phone, NONE), NONE);
+            is("one phone again", x.say(1, 0, NONE, NONE), NONE);
+        }
+        is("three phones", x.say(1, 0, 0, 0), 6);
+        is("three phones again", x.say(1, 0, 0, 0), NONE);
+        is("of another word", x.say(0, 0, 0, NONE), 6);
+    }
+
     private static void sayMostNodes() {
         part = "2 say, the largest tree";
         WordTokenPasser x = new WordTokenPasser();
@@ -300,6 +314,23 @@ public final class PromiseTest {
         is("refused ones change nothing", x.total(), 110);
     }
 
+    private static void newFrameForgets(int phone, int state) {
+        WordTokenPasser x = new WordTokenPasser();
+        x.say(0, phone, NONE, NONE);
+        x.gram(NONE, NONE, 0, 0, 0);
+        x.gram(NONE, NONE, EDGE, 0, 0);
+        frames(x, 3);
+        for (int t = 2; t >= state; t--) {
+            x.sound(t, phone, state, 60);
+        }
+        is("total with that cost", x.total(), 60);
+        for (int t = 2; t >= state; t--) {
+            x.drop();
+        }
+        frames(x, 3 - state);
+        is("total with new frames", x.total(), 0);
+    }
+
     private static void frameAndDrop() {
         part = "7 frame, 8 drop, 10 frames";
         WordTokenPasser x = fourShortWords();
@@ -322,6 +353,11 @@ public final class PromiseTest {
         is("best(14) without it", x.best(14), 0);
         is("frame again", x.frame(), 15);
         is("a new frame's costs are 0", x.best(15), 0);
+        for (int phone = 0; phone < 4; phone++) {
+            for (int state = 0; state < 3; state++) {
+                newFrameForgets(phone, state);
+            }
+        }
         for (int i = 14; i >= 0; i--) {
             is("drop", x.drop(), true);
             is("frames", x.frames(), i);
@@ -546,6 +582,21 @@ public final class PromiseTest {
         is("live(8)", x.live(8), 0);
     }
 
+    private static void liveHasNoEdgeWithin() {
+        part = "15 live, EDGE is no word";
+        WordTokenPasser x = new WordTokenPasser();
+        for (int w = 3; w >= 0; w--) {
+            x.say(w, w, NONE, NONE);
+        }
+        for (int w = 0; w <= EDGE; w++) {
+            x.gram(NONE, NONE, w, 0, 0);
+        }
+        frames(x, 7);
+        is("live(3)", x.live(3), 12);
+        is("live(4)", x.live(4), 12 + 4 * 4);
+        is("live(7)", x.live(7), 12 + 4 * 12 + 16 * 4);
+    }
+
     private static void best() {
         part = "16 best";
         WordTokenPasser x = new WordTokenPasser();
@@ -605,6 +656,7 @@ public final class PromiseTest {
         newObject();
         firstTopologyIsZero();
         say();
+        sayTheSameAgain();
         sayMostNodes();
         sayRefused();
         gram();
@@ -622,6 +674,7 @@ public final class PromiseTest {
         fewestWords();
         leastWords();
         live();
+        liveHasNoEdgeWithin();
         best();
         answersFollowChanges();
         System.out.println(wrong == 0 ? "all promises hold" : wrong + " answers are not as due");
