@@ -377,7 +377,8 @@ public final class WordTokenPasser {
      * into one number, so that of two tokens the lesser is that of the better path.
      */
     private static final class Token {
-        private static final long DEAD = Long.MAX_VALUE;
+        /** Far above what the costs of a path can come to, so that every path is better than none. */
+        private static final long DEAD = 1L << 62;
         private static final long START = 0L;
         /** A word takes three frames at least, so five words, of two bits each, are the most. */
         private static final int WORD_BITS = 2;
