@@ -1204,6 +1204,14 @@ public final class BoundaryTest {
             x.gram(EDGE, 0, 0, 9999, 0);
             is(x.live(7), 7);
         });
+        test("15: the last word needs no cost", () -> {
+            WordTokenPasser x = withFrames(fourWords(), 4);
+            int before = x.live(4);
+            x.ungram(NONE, NONE, 1);
+            // Word 1 still stands after EDGE and after each other word; the four words after it are gone.
+            is(x.live(4), before - 4);
+            is(x.live(3), 12);
+        });
         test("15: how dear a path is does not matter", () -> {
             WordTokenPasser x = withFrames(oneWord(0, NONE, NONE), 3);
             holdAt(x, 9999);
@@ -1262,6 +1270,17 @@ public final class BoundaryTest {
             holdAt(x, 8);
             is(x.best(3), 0);
             is(x.best(4), 8);
+        });
+        test("16: there is no path where the cost of a word but the last is none", () -> {
+            WordTokenPasser x = withFrames(fourWords(), 4);
+            holdAt(x, 8);
+            soundAll(x, 0, 5);
+            x.sound(0, 1, 0, 0);
+            is(x.best(4), 0);
+            x.ungram(NONE, NONE, 1);
+            // Word 1 alone, holding a state, costs 8; another word before the last one costs 5.
+            is(x.best(3), 0);
+            is(x.best(4), 5);
         });
         test("16: no cost of EDGE is needed", () -> {
             WordTokenPasser x = withFrames(oneWord(0, NONE, NONE), 3);
